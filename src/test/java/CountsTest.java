@@ -134,6 +134,19 @@ public final class CountsTest {
         Due.is("22: two on day 8", 8, census.fullestDay());
         census.undo();
         Due.is("22: still two on day 8", 8, census.fullestDay());
+        promise22NumberNotArea();
+    }
+
+    private static void promise22NumberNotArea() {
+        BuildingCensus census = Due.census(100);
+        Due.carry(census, 0, 0, 0, 5, 0);
+        census.pass(1);
+        Due.carry(census, 0, 0, 0, 1, 0);
+        census.pass(1);
+        Due.carry(census, 4, 0, 0, 0, 0);
+        Due.carry(census, 4, 1, 0, 0, 0);
+        Due.carry(census, 0, 0, 0, 90, 0);
+        Due.is("22: the number counts, not the area", 1, census.fullestDay());
     }
 
     private static int check(BuildingCensus census, String text, int day) {
