@@ -4,8 +4,18 @@ import java.util.concurrent.Callable;
 final class Due {
     private static int right = 0;
     private static int wrong = 0;
+    private static String topic = "";
 
     private Due() {
+    }
+
+    /** What the next answers are about, told before each one that is wrong. */
+    static void about(String text) {
+        topic = text;
+    }
+
+    static int noted() {
+        return right + wrong;
     }
 
     static void is(String what, long want, long got) {
@@ -42,7 +52,7 @@ final class Due {
         } else {
             wrong++;
             if (wrong <= 50) {
-                System.out.println("WRONG " + text);
+                System.out.println("WRONG " + topic + text);
             }
         }
     }
