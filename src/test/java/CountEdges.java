@@ -222,6 +222,14 @@ final class CountEdges {
         Edges.sentence(22, "Returns the day, up to the present one, at which the most units are there, of several the first one.");
         // One unit on the days 0 to 32, which is another one from day 2 on; two on day 33.
         Edges.leaves(Stands::rich, "fullestDay()", 33);
+        for (int day = 0; day <= 3; day++) {
+            BuildingCensus first = Stands.oneBuilding();
+            for (int i = 0; i < day; i++) {
+                first.pass(1);
+            }
+            Due.carry(first, 0, 0, 0, 1, 0);
+            Edges.run(first, "fullestDay()", day, "pass(1)", 0, "fullestDay()", day);
+        }
         // One unit on day 5 to 8; two on day 9 to 10; two again on day 11, of which one is another.
         BuildingCensus census = Due.census(100, 100);
         census.pass(5);

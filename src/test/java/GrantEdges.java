@@ -14,6 +14,7 @@ final class GrantEdges {
         reason4();
         reason5();
         reason5Counting();
+        firstAndLastPermit();
         firstReason();
         tellsNoUnit();
         sameUseTwice();
@@ -282,6 +283,46 @@ final class GrantEdges {
             Due.carry(census, 4, unit, 0, 0, 0);
         }
         reason(census, 5, "0, 0, 0, 1, 0");
+    }
+
+    /** The open permit is the one with the lowest number, or the one with the highest that there can be. */
+    private static void firstAndLastPermit() {
+        Edges.sentence(0, "2, an open permit tells one of its units;");
+        BuildingCensus census = Stands.oneBuilding();
+        census.apply(4, 0, 0, 0, 0);
+        Due.carry(census, 0, 0, 0, 10, 0);
+        Edges.run(census, "grant(0)", 1);
+        reason(census, 2, "4, 0, 0, 0, 0");
+        census = Stands.oneBuilding();
+        Due.carry(census, 0, 0, 0, 10, 0);
+        for (int permit = 1; permit < 40; permit++) {
+            census.apply(4, 0, 0, 0, 0);
+        }
+        Edges.run(census, "permit(1, 7)", 0, "permit(38, 7)", 0, "grant(39)", 1, "permit(1, 7)", 2, "permit(38, 7)", 2);
+        Edges.sentence(0, "3, the area of its new unit is greater than the room of the floor, minus the areas of the new units "
+                + "of all open permits of the kind 0 for this floor;");
+        census = Stands.fortyPermits();
+        Edges.run(census, "permit(38, 3)", 39, "grant(39)", 1, "permit(38, 7)", 0, "grant(30)", 2, "permit(38, 7)", 3,
+                "permit(28, 7)", 0, "permit(29, 7)", 3);
+        Edges.sentence(0, "5, there would be more than 60 units, or more than 6 floors of a building, if all open permits and "
+                + "this one were finished.");
+        census = Due.census(999);
+        census.apply(0, 0, 0, 1, 0);
+        Due.carry(census, 0, 0, 0, 900, 0);
+        for (int unit = 0; unit < 58; unit += 2) {
+            Due.carry(census, 1, unit, 5, 0, 0);
+        }
+        Edges.run(census, "total(2)", 59);
+        reason(census, 0, "0, 0, 0, 1, 0");
+        Edges.run(census, "grant(0)", 1);
+        reason(census, 5, "0, 0, 0, 1, 0");
+        census = Stands.oneBuilding();
+        for (int permit = 0; permit < 40; permit++) {
+            census.apply(5, 0, 10, 0, 0);
+        }
+        Edges.run(census, "grant(0)", 1, "grant(39)", 2, "grant(20)", 3, "grant(1)", 4, "permit(38, 7)", 0, "grant(38)", 5,
+                "permit(37, 7)", 5, "grant(2)", Edges.STATE, "withdraw(0)", 1, "permit(37, 7)", 0, "grant(2)", 5,
+                "permit(37, 7)", 5, "withdraw(39)", 1, "permit(37, 7)", 0);
     }
 
     private static void firstReason() {
